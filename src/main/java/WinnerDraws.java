@@ -9,6 +9,7 @@ public final class WinnerDraws {
     private static final int MOST_PARISHES = 10;
     private static final int MOST_TIDES = 6;
     private static final int MOST_CLAUSES = 60;
+    private static final int MOST_LINES = 60;
     private static final int MOST_STEPS = 200;
     private static final int MOST_OPEN = 6;
     private static final int MOST_WORKS = 16;
@@ -238,7 +239,7 @@ public final class WinnerDraws {
             throws IllegalArgumentException {
         need(people >= 0 && people <= SIDES * MOST_VOTES && lead >= -MOST_VOTES && lead <= MOST_VOTES);
         need(size >= 0 && size <= MOST_PARISHES && room >= 0 && room <= MOST_PARISHES);
-        need(lines >= 0 && lines <= MOST_CLAUSES && reign >= 0 && reign <= LAST_YEAR);
+        need(lines >= 0 && lines <= MOST_LINES && reign >= 0 && reign <= LAST_YEAR);
         need(year >= 0 && year <= LAST_YEAR && parish >= 0 && parish < MOST_PARISHES);
         law.tell(PEOPLE, people);
         law.tell(LEAD, lead);
@@ -272,12 +273,12 @@ public final class WinnerDraws {
     public int redrawn(int side, int k) throws NoSuchElementException, IllegalArgumentException {
         needSide(side);
         need(k >= 0 && k <= MOST_MOVES);
-        return Council.greatest(county, side, k);
+        return Council.greatest(county, side, k, false);
     }
 
     public int turned(int k) throws IllegalArgumentException {
         need(k >= 0 && k <= MOST_MOVES);
-        return Council.byTurns(county, 0, k);
+        return Council.greatest(county, 0, k, true);
     }
 
     public int reigns(int n, int what) throws IllegalArgumentException {
@@ -1003,12 +1004,14 @@ public final class WinnerDraws {
             put(wards, parish, ward);
         }
 
+        /** MARGIN of a SIDE, were a PARISH in another WARD. */
         private int marginIfPlaced(int side, int parish, int ward) {
-            int from = at(wards, parish);
-            place(parish, ward);
-            int margin = margin(side);
-            place(parish, from);
-            return margin;
+            int lead = at(votes, parish) - at(votes, MOST_PARISHES + parish);
+            int left = at(leads, at(wards, parish));
+            int reached = at(leads, ward);
+            int change = Integer.compare(left, lead) - Integer.compare(left, 0)
+                    + Integer.compare(reached, -lead) - Integer.compare(reached, 0);
+            return margin(side) + (side == 0 ? change : -change);
         }
 
         /** MARGIN of a SIDE, had a share of 100 of the other SIDE's VOTES in each PARISH come to it. */
@@ -1529,19 +1532,21 @@ public final class WinnerDraws {
             return pickedParish != NONE;
         }
 
-        /** REDRAWN of a SIDE and so many moves. */
-        private static int greatest(County county, int side, int moves) {
-            int found = county.margin(side);
+        /** The greatest MARGIN a SIDE can come to by so many moves or none, all its own or by turns with the other. */
+        private static int greatest(County county, int side, int moves, boolean byTurns) {
             if (moves <= 0) {
-                return found;
+                return county.margin(side);
             }
+            int found = greatestThen(county, side, moves, byTurns);
             for (int parish = 0; parish < county.parishes; parish++) {
                 int open = county.openWards(parish);
                 int from = county.wardOf(parish);
                 for (int ward = 0; ward < WARDS; ward++) {
-                    if (has(open, ward)) {
+                    if (has(open, ward) && moves == 1) {
+                        found = Math.max(found, county.marginIfPlaced(side, parish, ward));
+                    } else if (has(open, ward)) {
                         county.place(parish, ward);
-                        found = Math.max(found, greatest(county, side, moves - 1));
+                        found = Math.max(found, greatestThen(county, side, moves, byTurns));
                         county.place(parish, from);
                     }
                 }
@@ -1549,25 +1554,12 @@ public final class WinnerDraws {
             return found;
         }
 
-        /** BY TURNS of so many moves, of which the first is a SIDE's. */
-        private static int byTurns(County county, int side, int moves) {
-            if (moves <= 0) {
-                return county.margin(0);
+        private static int greatestThen(County county, int side, int moves, boolean byTurns) {
+            if (byTurns) {
+                // What one side gains the other one loses, so what the next to move comes to counts against this one.
+                return -greatest(county, 1 - side, moves - 1, true);
             }
-            int found = byTurns(county, 1 - side, moves - 1);
-            for (int parish = 0; parish < county.parishes; parish++) {
-                int open = county.openWards(parish);
-                int from = county.wardOf(parish);
-                for (int ward = 0; ward < WARDS; ward++) {
-                    if (has(open, ward)) {
-                        county.place(parish, ward);
-                        int then = byTurns(county, 1 - side, moves - 1);
-                        found = side == 0 ? Math.max(found, then) : Math.min(found, then);
-                        county.place(parish, from);
-                    }
-                }
-            }
-            return found;
+            return greatest(county, side, moves - 1, false);
         }
     }
 
