@@ -13,6 +13,7 @@ public final class YearsTest {
         undone();
         sixteenWorks();
         images();
+        fullImages();
         reigns();
         rounds();
         times();
@@ -230,6 +231,29 @@ public final class YearsTest {
         work(x, "move 0 1;move 0 1;", 0, 2);
         CHECK.due("no image to restore", -1, () -> x.restore());
         CHECK.due("so nothing is changed", 2, () -> x.told(10));
+    }
+
+    private static void fullImages() {
+        WinnerDraws x = CountyTest.of("parish 0 0 0;");
+        for (int image = 1; image <= 3; image++) {
+            for (int i = 1; i <= 16; i++) {
+                Check.work(x, "count 0 " + image + " " + i + ";");
+            }
+            x.image();
+            for (int i = 0; i < 16; i++) {
+                x.undo();
+            }
+        }
+        for (int image = 3; image >= 1; image--) {
+            CHECK.due("images left", image - 1, () -> x.restore());
+            CHECK.due("works of an image", 16, () -> x.count(2));
+            CHECK.due("one too many", -20, () -> Check.work(x, "vote;"));
+            for (int i = 16; i >= 1; i--) {
+                votesOf(x, 0, image, i);
+                CHECK.due("works left", i - 1, () -> x.undo());
+            }
+            votesOf(x, 0, 0, 0);
+        }
     }
 
     private static void reigns() {
