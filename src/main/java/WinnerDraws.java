@@ -609,9 +609,7 @@ public final class WinnerDraws {
         private void open(int n) {
             end = n;
             next = 0;
-            token = 0;
             held = 0;
-            fault = 0;
             place = NONE;
         }
 
@@ -637,13 +635,13 @@ public final class WinnerDraws {
             return true;
         }
 
-        private boolean word() {
+        /** Takes the letters that stand next, maybe none: then it is no word that a text knows. */
+        private void word() {
             ahead();
             token = next;
             while (next < end && isLetter(at(bytes, next))) {
                 next++;
             }
-            return next > token || fail(CANT_STAND, token);
         }
 
         private boolean is(String word) {
@@ -714,7 +712,6 @@ public final class WinnerDraws {
             ruler = NONE;
             reign = 0;
             moved = 0;
-            tally();
         }
 
         private void copyFrom(County other) {
@@ -756,7 +753,6 @@ public final class WinnerDraws {
             clear();
             for (int clauses = 0; clauses <= MOST_CLAUSES; clauses++) {
                 if (text.ahead() == NONE) {
-                    tally();
                     return true;
                 }
                 if (!readClause(text, clauses) || !text.sign(';')) {
@@ -767,9 +763,7 @@ public final class WinnerDraws {
         }
 
         private boolean readClause(Text text, int clauses) {
-            if (!text.word()) {
-                return false;
-            }
+            text.word();
             int kind = clauseKind(text);
             if (kind == 0) {
                 return text.fail(CANT_STAND, text.token);
@@ -1204,9 +1198,7 @@ public final class WinnerDraws {
                 }
                 return text.sign('(') && readSum(text, open + 1) && text.sign(')');
             }
-            if (!text.word()) {
-                return false;
-            }
+            text.word();
             int fact = factNamed(text);
             if (fact != NONE) {
                 return add(-1 - fact);
@@ -1279,9 +1271,7 @@ public final class WinnerDraws {
         }
 
         private boolean readStep(Text text, int open) {
-            if (!text.word()) {
-                return false;
-            }
+            text.word();
             if (text.is("again")) {
                 return readAgain(text, open);
             }

@@ -213,6 +213,8 @@ public final class TextsTest {
         law("((((((1))))))+((((((2))))))", 1, -1);
         law("((((((least[1,2]))))))", -7, 6);
         law("least[1,least[1,least[1,least[1,least[1,least[1,most", -7, 48);
+        law("least[".repeat(7), -7, 36);
+        law("most[least[most[least[most[least[1,2],3],4],5],6],7]", 1, -1);
         law("((((((x", -9, 6);
         law("((((((1(", -9, 7);
         law("1+".repeat(74) + "1", 1, -1);
