@@ -337,7 +337,7 @@ public final class WinnerDraws {
         need(q >= 0 && q <= SIXTEEN && isHalf(half));
         long above = 0;
         for (int turned = k; turned <= n; turned++) {
-            above += waysToTake(n, turned) * power(q, turned) * power(SIXTEEN - q, n - turned);
+            above += waysToTake(turned, n) * power(q, turned) * power(SIXTEEN - q, n - turned);
         }
         return leastTerm(above, power(SIXTEEN, n), half);
     }
@@ -562,10 +562,10 @@ public final class WinnerDraws {
         return product;
     }
 
-    private static long waysToTake(int taken, int of) {
+    private static long waysToTake(int many, int from) {
         long ways = 1;
-        for (int i = 1; i <= of; i++) {
-            ways = ways * (taken - i + 1) / i;
+        for (int i = 1; i <= many; i++) {
+            ways = ways * (from - i + 1) / i;
         }
         return ways;
     }
@@ -1242,6 +1242,7 @@ public final class WinnerDraws {
 
     /** One WORK: its STEPS, four cells each: what to do, and its numbers (of an again: how often, where it ends). */
     private static final class Plan {
+        // A STEP takes five bytes at least, so no text needs as many cells as it has bytes.
         private final int[] cells = new int[WORK_BYTES];
         private int used;
         private int parishes;

@@ -304,6 +304,9 @@ public final class YearsTest {
         String tides = "tide 0 0;" + "tide 0 2;".repeat(5);
         round(CountyTest.of("parish 0 9 94;" + tides), 54, 6);
         round(CountyTest.of("parish 0 9 95;" + tides), -1, -1);
+        round(x, 0, 2);
+        Check.county(x, "parish 0 9 95;" + tides);
+        round(x, -1, -1);
     }
 
     private static void times() {
