@@ -9,6 +9,7 @@ final class Check {
         long answer();
     }
 
+    private String test = "";
     private int wrong;
     private int asked;
 
@@ -39,8 +40,17 @@ final class Check {
         asked++;
         if (got != due) {
             wrong++;
-            System.out.println(what + " answered " + shown(got) + ", due is " + shown(due));
+            System.out.println(test + what + " answered " + shown(got) + ", due is " + shown(due));
         }
+    }
+
+    /** What is asked from here on belongs to this test. */
+    void open(String name) {
+        test = name;
+    }
+
+    int asked() {
+        return asked;
     }
 
     void end() {
@@ -65,6 +75,13 @@ final class Check {
             word = word << 8 | (i < text.length() ? text.charAt(i) & 255 : 0);
         }
         return word;
+    }
+
+    /** A new object with a COUNTY. */
+    static WinnerDraws of(String text) {
+        WinnerDraws draws = new WinnerDraws();
+        county(draws, text);
+        return draws;
     }
 
     static int county(WinnerDraws draws, String text) {

@@ -88,7 +88,7 @@ public final class MovesTest {
     }
 
     private static void costs() {
-        WinnerDraws x = CountyTest.of(CountyTest.CHAIN);
+        WinnerDraws x = Check.of(CountyTest.CHAIN);
         CHECK.due("cost without a law", 1, () -> x.cost(4, 2));
         Check.law(x, "people*people%7+10*size+room");
         CHECK.due("cost of 0 to 1", 64 % 7 + 20 + 2, () -> x.cost(0, 1));
@@ -108,18 +108,18 @@ public final class MovesTest {
     }
 
     private static void mayMove() {
-        WinnerDraws x = CountyTest.of(CountyTest.CHAIN);
+        WinnerDraws x = Check.of(CountyTest.CHAIN);
         long[] due = {2, 2, 1, 8, 0};
         for (int i = 0; i < 5; i++) {
             int parish = i;
             CHECK.due("may " + i, due[i], () -> x.may(parish));
         }
-        WinnerDraws torn = CountyTest.of("parish 0 1 1;parish 0 1 1;parish 0 1 1;parish 1 1 1;parish 2 1 1;parish 3 1 1;"
+        WinnerDraws torn = Check.of("parish 0 1 1;parish 0 1 1;parish 0 1 1;parish 1 1 1;parish 2 1 1;parish 3 1 1;"
                 + "road 0 1;road 1 2;road 1 3;road 1 4;road 0 5;road 0 3;");
         CHECK.due("may not: the others would not hang together", 0, () -> torn.may(1));
         CHECK.due("may to two wards", 10, () -> torn.may(0));
         CHECK.due("may not: no road over a line", 0, () -> torn.may(2));
-        WinnerDraws mend = CountyTest.of("parish 0 1 1;parish 0 1 1;parish 0 1 1;parish 1 1 1;road 0 1;road 2 3;");
+        WinnerDraws mend = Check.of("parish 0 1 1;parish 0 1 1;parish 0 1 1;parish 1 1 1;road 0 1;road 2 3;");
         CHECK.due("may: the others hang together, if not all did", 2, () -> mend.may(2));
     }
 
@@ -130,13 +130,13 @@ public final class MovesTest {
     }
 
     private static void best() {
-        WinnerDraws x = CountyTest.of(CountyTest.CHAIN);
+        WinnerDraws x = Check.of(CountyTest.CHAIN);
         best(x, 0, 3, 3, 2);
         best(x, 1, 0, 1, 1);
-        WinnerDraws none = CountyTest.of("parish 0 1 0;");
+        WinnerDraws none = Check.of("parish 0 1 0;");
         best(none, 0, -1, -1, -1);
         // Side 1 has none of three wards; if 0 leaves ward 0, that one is its own: margin -3 becomes -1.
-        WinnerDraws below = CountyTest.of("parish 0 9 0;parish 0 0 5;parish 1 9 0;parish 2 9 0;"
+        WinnerDraws below = Check.of("parish 0 9 0;parish 0 0 5;parish 1 9 0;parish 2 9 0;"
                 + "road 0 1;road 0 2;road 0 3;");
         best(below, 1, 0, 1, -1);
         CHECK.due("a margin of -1 is told, though", 0, () -> below.best(1, 0));
@@ -144,13 +144,13 @@ public final class MovesTest {
 
     private static void bestAndCost() {
         String text = "parish 0 9 0;parish 0 0 5;parish 1 9 0;parish 2 9 0;road 0 1;road 0 2;road 0 3;purse 8;";
-        WinnerDraws x = CountyTest.of(text);
+        WinnerDraws x = Check.of(text);
         best(x, 1, 0, 1, -1);
         Check.law(x, "9");
         best(x, 1, -1, -1, -1);
         Check.law(x, "8");
         best(x, 1, 0, 1, -1);
-        WinnerDraws cheap = CountyTest.of("parish 0 9 0;parish 0 0 5;parish 1 9 0;parish 1 9 0;parish 2 9 0;"
+        WinnerDraws cheap = Check.of("parish 0 9 0;parish 0 0 5;parish 1 9 0;parish 1 9 0;parish 2 9 0;"
                 + "road 0 1;road 0 2;road 0 4;road 2 3;");
         Check.law(cheap, "room*5");
         best(cheap, 1, 0, 2, -1);
@@ -159,7 +159,7 @@ public final class MovesTest {
     }
 
     private static void several() {
-        WinnerDraws x = CountyTest.of(CountyTest.CHAIN);
+        WinnerDraws x = Check.of(CountyTest.CHAIN);
         CHECK.due("redrawn 0 0", 1, () -> x.redrawn(0, 0));
         CHECK.due("redrawn 0 1", 2, () -> x.redrawn(0, 1));
         CHECK.due("redrawn 1 0", -1, () -> x.redrawn(1, 0));
@@ -173,7 +173,7 @@ public final class MovesTest {
         CHECK.due("nothing was moved", 12, () -> x.ward(1, 0));
         CHECK.due("nor counted", 0, () -> x.told(12));
         // Side 1 wins ward 1 only if 2 comes to it and then 1, which borders on it by 2 alone.
-        WinnerDraws chain = CountyTest.of("parish 0 5 0;parish 0 0 2;parish 0 0 2;parish 1 3 0;"
+        WinnerDraws chain = Check.of("parish 0 5 0;parish 0 0 2;parish 0 0 2;parish 1 3 0;"
                 + "road 0 1;road 1 2;road 2 3;");
         CHECK.due("one move", 2, () -> chain.redrawn(0, 1));
         CHECK.due("one move of side 1", -2, () -> chain.redrawn(1, 1));
@@ -181,14 +181,14 @@ public final class MovesTest {
     }
 
     private static void swings() {
-        WinnerDraws x = CountyTest.of(CountyTest.CHAIN);
+        WinnerDraws x = Check.of(CountyTest.CHAIN);
         CHECK.due("swing to 0", 0, () -> x.swing(0));
         CHECK.due("swing to 1", 17, () -> x.swing(1));
-        WinnerDraws all = CountyTest.of("parish 0 0 1;");
+        WinnerDraws all = Check.of("parish 0 0 1;");
         CHECK.due("swing of all", 100, () -> all.swing(0));
-        WinnerDraws none = CountyTest.of("parish 0 0 0;");
+        WinnerDraws none = Check.of("parish 0 0 0;");
         CHECK.due("no swing", -1, () -> none.swing(0));
-        WinnerDraws each = CountyTest.of("parish 0 0 3;parish 0 0 3;parish 0 4 0;");
+        WinnerDraws each = Check.of("parish 0 0 3;parish 0 0 3;parish 0 4 0;");
         CHECK.due("cut in each parish", 34, () -> each.swing(0));
     }
 
@@ -198,7 +198,7 @@ public final class MovesTest {
     }
 
     private static void fits() {
-        WinnerDraws x = CountyTest.of(CountyTest.CHAIN);
+        WinnerDraws x = Check.of(CountyTest.CHAIN);
         fits(x, 4, 1);
         Check.book(x, "0 0;");
         fits(x, 3, 11);
@@ -219,7 +219,7 @@ public final class MovesTest {
     }
 
     private static void look() {
-        WinnerDraws x = CountyTest.of(CountyTest.CHAIN);
+        WinnerDraws x = Check.of(CountyTest.CHAIN);
         // Behind the four moves ward 0 is won by 1, 0, 0, 0; ward 1 by 1, 1, 1, none; 2 by none; 3 by 0.
         look(x, 0, 3);
         Check.book(x, "0 0;");
@@ -230,7 +230,7 @@ public final class MovesTest {
         look(x, -1, -1);
         Check.book(x, "2 0;");
         look(x, 0, 0);
-        WinnerDraws none = CountyTest.of("");
+        WinnerDraws none = Check.of("");
         look(none, 0, 0);
     }
 }

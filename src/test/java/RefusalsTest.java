@@ -9,13 +9,13 @@ public final class RefusalsTest {
     private static WinnerDraws x;
 
     public static void main(String[] args) {
-        x = CountyTest.of(CountyTest.CHAIN);
+        x = Check.of(CountyTest.CHAIN);
         whats();
         noSuchFirst();
         ranges();
         counted();
-        extremes(new WinnerDraws());
-        extremes(CountyTest.of(CountyTest.CHAIN + "tide 1 20;"));
+        extremes("");
+        extremes(CountyTest.CHAIN + "tide 1 20;");
         CHECK.end();
     }
 
@@ -136,10 +136,12 @@ public final class RefusalsTest {
     }
 
     /** Whatever the arguments: an answer, or an exception that the document names. */
-    private static void extremes(WinnerDraws y) {
+    private static void extremes(String county) {
         int answers = 0;
         for (int a : FAR) {
             for (int b : FAR) {
+                // An object is promised for 512 calls only.
+                WinnerDraws y = Check.of(county);
                 long sum = Check.answerOf(() -> y.told(a)) + Check.answerOf(() -> y.parish(a, b))
                         + Check.answerOf(() -> y.ward(a, b)) + Check.answerOf(() -> y.side(a, b))
                         + Check.answerOf(() -> y.cost(a, b)) + Check.answerOf(() -> y.may(a))

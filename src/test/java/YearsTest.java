@@ -38,7 +38,7 @@ public final class YearsTest {
     }
 
     private static void votes() {
-        WinnerDraws x = CountyTest.of(CountyTest.CHAIN + "tide 1 20;tide 0 15;");
+        WinnerDraws x = Check.of(CountyTest.CHAIN + "tide 1 20;tide 0 15;");
         work(x, "vote;", 1, 0);
         votesOf(x, 0, 5, 3);
         votesOf(x, 1, 1, 4);
@@ -50,33 +50,33 @@ public final class YearsTest {
         work(x, "vote;", 1, 0);
         votesOf(x, 0, 5, 3);
         rule(x, 1, 2, 2);
-        WinnerDraws much = CountyTest.of("parish 0 99 99;parish 1 50 49;tide 0 20;");
+        WinnerDraws much = Check.of("parish 0 99 99;parish 1 50 49;tide 0 20;");
         work(much, "vote;vote;", 2, 0);
         votesOf(much, 0, 99 + 19 + 16, 99 - 19 - 16);
         votesOf(much, 1, 50 + 9 + 8, 49 - 9 - 8);
     }
 
     private static void rulers() {
-        WinnerDraws seats = CountyTest.of("parish 0 1 0;parish 1 1 0;parish 2 0 9;");
+        WinnerDraws seats = Check.of("parish 0 1 0;parish 1 1 0;parish 2 0 9;");
         work(seats, "vote;", 1, 0);
         rule(seats, 0, 1, 1);
-        WinnerDraws votes = CountyTest.of("parish 0 1 0;parish 2 0 9;");
+        WinnerDraws votes = Check.of("parish 0 1 0;parish 2 0 9;");
         work(votes, "vote;", 1, 0);
         rule(votes, 1, 1, 1);
-        WinnerDraws alike = CountyTest.of("parish 0 5 0;parish 2 0 5;");
+        WinnerDraws alike = Check.of("parish 0 5 0;parish 2 0 5;");
         work(alike, "vote;vote;", 2, 0);
         rule(alike, -1, 0, 2);
         work(alike, "count 0 6 0;vote;count 0 5 0;vote;vote;", 5, 0);
         rule(alike, 0, 3, 5);
         work(alike, "count 0 0 0;vote;", 2, 0);
         rule(alike, 1, 1, 6);
-        WinnerDraws none = CountyTest.of("");
+        WinnerDraws none = Check.of("");
         work(none, "vote;", 1, 0);
         rule(none, -1, 0, 1);
     }
 
     private static void draws() {
-        WinnerDraws x = CountyTest.of(CountyTest.CHAIN);
+        WinnerDraws x = Check.of(CountyTest.CHAIN);
         work(x, "draw;", 0, 1);
         work(x, "vote;draw;", 2, 0);
         CHECK.due("3 was moved to ward 3", 24, () -> x.ward(3, 0));
@@ -88,7 +88,7 @@ public final class YearsTest {
     }
 
     private static void moves() {
-        WinnerDraws x = CountyTest.of(CountyTest.CHAIN + "purse 5;");
+        WinnerDraws x = Check.of(CountyTest.CHAIN + "purse 5;");
         work(x, "move 0 0;move 0 2;move 4 1;move 0 3;", 0, 4);
         Check.law(x, "6");
         work(x, "move 0 1;", 0, 1);
@@ -100,7 +100,7 @@ public final class YearsTest {
     }
 
     private static void counts() {
-        WinnerDraws x = CountyTest.of(CountyTest.CHAIN);
+        WinnerDraws x = Check.of(CountyTest.CHAIN);
         work(x, "count 0 6 2;count 0 2 6;count 0 2 6;count 4 99 0;", 2, 2);
         votesOf(x, 0, 2, 6);
         CHECK.due("ward 0 is won by 1", 1, () -> x.ward(0, 3));
@@ -125,7 +125,7 @@ public final class YearsTest {
     }
 
     private static void lastYear() {
-        WinnerDraws x = CountyTest.of("parish 0 1 0;tide 1 0;tide 0 1;");
+        WinnerDraws x = Check.of("parish 0 1 0;tide 1 0;tide 0 1;");
         work(x, "again 5[again 40[vote;];];", 194, 0);
         work(x, "again 5[again 40[vote;];];", 194, 0);
         rule(x, 0, 388, 388);
@@ -138,7 +138,7 @@ public final class YearsTest {
     }
 
     private static void undone() {
-        WinnerDraws x = CountyTest.of(CountyTest.CHAIN + "tide 1 20;");
+        WinnerDraws x = Check.of(CountyTest.CHAIN + "tide 1 20;");
         work(x, "vote;", 1, 0);
         work(x, "count 2 9 9;move 0 1;draw;draw;", 2, 2);
         work(x, "", 0, 0);
@@ -165,7 +165,7 @@ public final class YearsTest {
     }
 
     private static void sixteenWorks() {
-        WinnerDraws x = CountyTest.of("parish 0 1 0;");
+        WinnerDraws x = Check.of("parish 0 1 0;");
         for (int i = 0; i < 15; i++) {
             work(x, "vote;", 1, 0);
         }
@@ -191,7 +191,7 @@ public final class YearsTest {
     }
 
     private static void images() {
-        WinnerDraws x = CountyTest.of(CountyTest.CHAIN);
+        WinnerDraws x = Check.of(CountyTest.CHAIN);
         work(x, "vote;move 0 1;", 2, 0);
         CHECK.due("first image", 1, () -> x.image());
         work(x, "move 0 0;count 0 1 1;draw;draw;", 3, 1);
@@ -234,7 +234,7 @@ public final class YearsTest {
     }
 
     private static void fullImages() {
-        WinnerDraws x = CountyTest.of("parish 0 0 0;");
+        WinnerDraws x = Check.of("parish 0 0 0;");
         for (int image = 1; image <= 3; image++) {
             for (int i = 1; i <= 16; i++) {
                 Check.work(x, "count 0 " + image + " " + i + ";");
@@ -257,7 +257,7 @@ public final class YearsTest {
     }
 
     private static void reigns() {
-        WinnerDraws x = CountyTest.of(CountyTest.CHAIN);
+        WinnerDraws x = Check.of(CountyTest.CHAIN);
         CHECK.due("reigns of 0", -1, () -> x.reigns(0, 0));
         CHECK.due("changes of 0", 0, () -> x.reigns(0, 1));
         CHECK.due("reigns of 1", 0, () -> x.reigns(1, 0));
@@ -266,13 +266,13 @@ public final class YearsTest {
         CHECK.due("changes of 60", 1, () -> x.reigns(60, 1));
         rule(x, -1, 0, 0);
         CHECK.due("nothing is moved", 0, () -> x.told(12));
-        WinnerDraws swaying = CountyTest.of("parish 0 50 50;tide 0 20;tide 1 20;");
+        WinnerDraws swaying = Check.of("parish 0 50 50;tide 0 20;tide 1 20;");
         CHECK.due("changes by tides", 7, () -> swaying.reigns(7, 1));
         CHECK.due("odd years", 0, () -> swaying.reigns(7, 0));
         CHECK.due("even years", 1, () -> swaying.reigns(8, 0));
         votesOf(swaying, 0, 50, 50);
         // By its draw in year 1 side 0 wins ward 1, and so rules on when the second tide gives ward 2 to side 1.
-        WinnerDraws drawn = CountyTest.of("parish 0 10 0;parish 0 9 0;parish 1 0 4;parish 2 50 50;road 0 1;road 1 2;"
+        WinnerDraws drawn = Check.of("parish 0 10 0;parish 0 9 0;parish 1 0 4;parish 2 50 50;road 0 1;road 1 2;"
                 + "tide 0 0;tide 1 20;purse 1;");
         CHECK.due("rules by a draw", 0, () -> drawn.reigns(2, 0));
         CHECK.due("changes by a draw", 1, () -> drawn.reigns(2, 1));
@@ -287,56 +287,56 @@ public final class YearsTest {
     }
 
     private static void rounds() {
-        round(CountyTest.of(""), 0, 1);
-        round(CountyTest.of("tide 0 3;tide 1 3;tide 1 3;"), 0, 3);
-        round(CountyTest.of("parish 0 1 1;"), 0, 1);
-        round(CountyTest.of("parish 0 1 0;"), 1, 1);
-        round(CountyTest.of("parish 0 1 0;tide 0 0;tide 1 0;"), 1, 2);
-        round(CountyTest.of(CountyTest.CHAIN), 1, 1);
-        WinnerDraws x = CountyTest.of("parish 0 1 0;tide 0 0;tide 1 0;");
+        round(Check.of(""), 0, 1);
+        round(Check.of("tide 0 3;tide 1 3;tide 1 3;"), 0, 3);
+        round(Check.of("parish 0 1 1;"), 0, 1);
+        round(Check.of("parish 0 1 0;"), 1, 1);
+        round(Check.of("parish 0 1 0;tide 0 0;tide 1 0;"), 1, 2);
+        round(Check.of(CountyTest.CHAIN), 1, 1);
+        WinnerDraws x = Check.of("parish 0 1 0;tide 0 0;tide 1 0;");
         work(x, "vote;", 1, 0);
         round(x, 0, 2);
         // The law lets a move be paid for from year 40 on; what is alike ahead of it is a round already.
-        WinnerDraws late = CountyTest.of(CountyTest.CHAIN);
+        WinnerDraws late = Check.of(CountyTest.CHAIN);
         Check.law(late, "least[year,1]*60-year");
         CHECK.due("a round that shows before the law turns", 1, () -> late.round(0));
-        round(CountyTest.of("parish 0 9 99;tide 0 2;"), 50, 1);
+        round(Check.of("parish 0 9 99;tide 0 2;"), 50, 1);
         String tides = "tide 0 0;" + "tide 0 2;".repeat(5);
-        round(CountyTest.of("parish 0 9 94;" + tides), 54, 6);
-        round(CountyTest.of("parish 0 9 95;" + tides), -1, -1);
+        round(Check.of("parish 0 9 94;" + tides), 54, 6);
+        round(Check.of("parish 0 9 95;" + tides), -1, -1);
         round(x, 0, 2);
         Check.county(x, "parish 0 9 95;" + tides);
         round(x, -1, -1);
     }
 
     private static void times() {
-        WinnerDraws x = CountyTest.of("parish 0 5 0;parish 0 1 0;parish 1 0 3;road 0 2;road 1 2;road 0 1;purse 1;");
+        WinnerDraws x = Check.of("parish 0 5 0;parish 0 1 0;parish 1 0 3;road 0 2;road 1 2;road 0 1;purse 1;");
         CHECK.due("a year by its draw alone, rules", 0, () -> x.time(1, 0, 1, 0));
         CHECK.due("a year by its draw alone, margin", 2, () -> x.time(1, 0, 1, 1));
         CHECK.due("a year by its draw alone, moves", 1, () -> x.time(1, 0, 1, 2));
         CHECK.due("a year by its draw alone, lines", 2, () -> x.time(1, 0, 1, 3));
         // Seed 1 draws 16838, 5758, 10113: parish 2 to ward 2 if q is above 1; no draw brings more than that.
         String text = "parish 0 0 1;parish 0 0 0;parish 0 5 0;parish 2 0 3;road 0 1;road 1 2;road 2 3;purse ";
-        CHECK.due("q 1", 0, () -> CountyTest.of(text + "1;").time(1, 1, 1, 2));
-        CHECK.due("q 2", 1, () -> CountyTest.of(text + "1;").time(1, 2, 1, 2));
-        CHECK.due("q 16", 1, () -> CountyTest.of(text + "1;").time(1, 16, 1, 2));
-        CHECK.due("q 16, not paid for", 0, () -> CountyTest.of(text + "0;").time(1, 16, 1, 2));
+        CHECK.due("q 1", 0, () -> Check.of(text + "1;").time(1, 1, 1, 2));
+        CHECK.due("q 2", 1, () -> Check.of(text + "1;").time(1, 2, 1, 2));
+        CHECK.due("q 16", 1, () -> Check.of(text + "1;").time(1, 16, 1, 2));
+        CHECK.due("q 16, not paid for", 0, () -> Check.of(text + "0;").time(1, 16, 1, 2));
         // Seed 4 draws 1817, 24166, 10491: parish 1 to ward 2, which may not be.
-        CHECK.due("seed 4", 0, () -> CountyTest.of(text + "1;").time(4, 16, 1, 2));
-        WinnerDraws old = CountyTest.of("parish 0 1 0;");
+        CHECK.due("seed 4", 0, () -> Check.of(text + "1;").time(4, 16, 1, 2));
+        WinnerDraws old = Check.of("parish 0 1 0;");
         Check.work(old, "again 5[again 40[vote;];];");
         Check.work(old, "again 5[again 40[vote;];];");
         Check.work(old, "again 40[vote;];");
         Check.work(old, "count 0 0 1;");
         CHECK.due("a vote beyond year 400", 1, () -> old.time(1, 0, 1, 0));
         CHECK.due("nothing stays changed", 0, () -> x.told(4));
-        WinnerDraws none = CountyTest.of("tide 0 4;");
+        WinnerDraws none = Check.of("tide 0 4;");
         CHECK.due("without parishes, rules", -1, () -> none.time(5, 16, 48, 0));
         CHECK.due("without parishes, moves", 0, () -> none.time(5, 16, 48, 2));
     }
 
     private static void spans() {
-        WinnerDraws x = CountyTest.of(CountyTest.CHAIN + "tide 1 20;tide 0 20;");
+        WinnerDraws x = Check.of(CountyTest.CHAIN + "tide 1 20;tide 0 20;");
         int least = 9;
         int most = -9;
         int[] ruled = new int[2];
